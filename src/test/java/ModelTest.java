@@ -1,18 +1,15 @@
 import java.util.ArrayList;
+import java.util.Arrays;
 import java.util.List;
 import java.util.Random;
 
 /** Runs of calls, drawn from fixed seeds, on OnionNet and on the Model side by side. */
 public final class ModelTest {
-    private static final int RUNS = 400;
-    private static final int CALLS = 512;
+    private static final int RUNS = 600;
     private static final int[] COMMAND_MASKS = {1, 7, 8, 9, 14, 15, 255, 64};
 
     private final Random random;
-    private final OnionNet net = new OnionNet();
-    private final Model model = new Model();
-    private final List<String> calls = new ArrayList<>();
-    private boolean same = true;
+    private final Twin twin = new Twin();
 
     private ModelTest(long seed) {
         random = new Random(seed);
@@ -25,9 +22,9 @@ public final class ModelTest {
         for (int run = first; run < first + runs && wrong < 5; run++) {
             ModelTest test = new ModelTest(run);
             test.run(run % 8);
-            if (!test.same) {
+            if (!test.twin.same) {
                 wrong++;
-                System.out.println("run " + run + " differs: " + String.join(" ", test.calls));
+                System.out.println("run " + run + " differs: " + String.join(" ", test.twin.calls));
             }
         }
         System.out.println(wrong == 0 ? runs + " runs agree with the model" : wrong + " runs differ");
@@ -36,15 +33,19 @@ public final class ModelTest {
         }
     }
 
+    private boolean goesOn() {
+        return twin.same && twin.calls.size() < Twin.CALLS;
+    }
+
     private void run(int kind) {
         int relays = kind == 7 ? random.nextInt(8) : 1 + random.nextInt(kind < 3 ? 3 : 6);
         for (int i = 0; i < relays; i++) {
-            call("relay", random.nextInt(8) - 1);
+            twin.call("relay", random.nextInt(8) - 1);
         }
         for (int i = 0; i < 1 + random.nextInt(3); i++) {
-            call("client", random.nextInt(4));
+            twin.call("client", random.nextInt(4));
         }
-        while (calls.size() < CALLS && same) {
+        while (goesOn()) {
             step(kind);
         }
     }
@@ -52,28 +53,30 @@ public final class ModelTest {
     private void step(int kind) {
         int dice = random.nextInt(100);
         if (dice < 5) {
-            call("circuit", 8 + random.nextInt(2), some(6), random.nextInt(3) == 0 ? -1 : some(6),
+            twin.call("circuit", 8 + random.nextInt(2), some(6), random.nextInt(3) == 0 ? -1 : some(6),
                     random.nextInt(3) == 0 ? -1 : some(6));
         } else if (dice < 17) {
-            call("settle", random.nextInt(3) == 0 ? 1 + random.nextInt(12) : 200);
+            twin.call("settle", random.nextInt(3) == 0 ? 1 + random.nextInt(12) : 200);
         } else if (dice < 37) {
             int link = busyLink();
-            call("deliver", link / 10, link % 10);
+            twin.call("deliver", link / 10, link % 10);
         } else if (dice < 39 && kind != 0) {
             int link = busyLink();
-            call("drop", link / 10, link % 10);
+            twin.call("drop", link / 10, link % 10);
         } else if (dice < 42 && kind % 2 == 1) {
             alterSome();
+        } else if (dice < 43 && kind % 4 > 1) {
+            forge();
         } else if (dice < 49) {
-            call("stream", some(6), random.nextInt(6) == 0 ? random.nextInt(258) - 1 : 1 + random.nextInt(2));
+            twin.call("stream", some(6), random.nextInt(6) == 0 ? random.nextInt(258) - 1 : 1 + random.nextInt(2));
         } else if (dice < 57) {
             putSome();
         } else if (dice < 68) {
-            call("push", some(6), 1 + random.nextInt(4));
+            twin.call("push", some(6), 1 + random.nextInt(4));
         } else if (dice == 68) {
-            call("close", some(6), 1 + random.nextInt(4));
+            twin.call("close", some(6), 1 + random.nextInt(4));
         } else if (dice == 69 && random.nextInt(3) == 0) {
-            call("destroy", some(6));
+            twin.call("destroy", some(6));
         } else if (dice < 75) {
             odd();
         } else {
@@ -83,14 +86,14 @@ public final class ModelTest {
 
     /** Mostly a number that has been given already, as the model knows. */
     private int some(int most) {
-        int made = most == 6 && !model.circuits.isEmpty() ? Math.max(model.circuits.size(), 3) : 3;
+        int made = most == 6 && !twin.model.circuits.isEmpty() ? Math.max(twin.model.circuits.size(), 3) : 3;
         return random.nextInt(10) == 0 ? random.nextInt(most + 2) - 1 : random.nextInt(made);
     }
 
     private int busyLink() {
         List<Integer> busy = new ArrayList<>();
         for (int link = 0; link < 100; link++) {
-            if (model.waiting(link / 10, link % 10) > 0) {
+            if (twin.model.waiting(link / 10, link % 10) > 0) {
                 busy.add(link);
             }
         }
@@ -108,15 +111,64 @@ public final class ModelTest {
             at = 3;
             mask = 1 + random.nextInt(3);
         }
-        call("alter", link / 10, link % 10, at, mask);
+        twin.call("alter", link / 10, link % 10, at, mask);
+    }
+
+    /** Alters a cell so that a key recognizes a payload that nobody made. */
+    private void forge() {
+        int link = busyLink();
+        int from = link / 10;
+        int to = link % 10;
+        if (twin.model.waiting(from, to) < 1 || twin.model.link(from, to).get(0)[4] != 3) {
+            return;
+        }
+        List<Model.Side> layers = twin.layers(from, to, random.nextInt(6) == 0 ? 1 : 0);
+        if (layers.isEmpty()) {
+            return;
+        }
+        byte[] forged = twin.bare(from, to, layers);
+        Model.Side last = layers.get(layers.size() - 1);
+        if (!Arrays.equals(last.due(forged), Arrays.copyOfRange(forged, 5, 9))) {
+            if (random.nextInt(4) != 0) {
+                return;
+            }
+            forged = new byte[135];
+        }
+        changePayload(forged);
+        System.arraycopy(last.due(forged), 0, forged, 5, 4);
+        if (random.nextInt(8) == 0) {
+            forged[5 + random.nextInt(4)] ^= (byte) (1 << random.nextInt(8));
+        }
+        twin.alterTo(from, to, layers, forged);
+    }
+
+    private void changePayload(byte[] payload) {
+        int[] commands = {0, 1, 2, 3, 4, 5, 6, 14, 15, 255};
+        int[] streams = {0, 1, 2, 3, 4, 5, 257, 65535};
+        int[] lengths = {0, 1, 2, 63, 64, 65, 69, 123, 124, 125, 65535};
+        if (random.nextInt(2) == 0) {
+            payload[0] = (byte) commands[random.nextInt(commands.length)];
+        }
+        if (random.nextInt(2) == 0) {
+            System.arraycopy(Crypto.number(streams[random.nextInt(streams.length)], 2), 0, payload, 3, 2);
+        }
+        if (random.nextInt(3) == 0) {
+            System.arraycopy(Crypto.number(lengths[random.nextInt(lengths.length)], 2), 0, payload, 9, 2);
+        }
+        if (random.nextInt(3) == 0) {
+            payload[11] = (byte) random.nextInt(7);
+        }
+        if (random.nextInt(12) == 0) {
+            payload[1 + random.nextInt(2)] = 1;
+        }
     }
 
     private void putSome() {
         int circuit = some(6);
         int stream = 1 + random.nextInt(4);
         int count = random.nextInt(12) == 0 ? 130 : 1 + random.nextInt(3);
-        for (int i = 0; i < count && calls.size() < CALLS && same; i++) {
-            call("put", circuit, stream, random.nextInt());
+        for (int i = 0; i < count && goesOn(); i++) {
+            twin.call("put", circuit, stream, random.nextInt());
         }
     }
 
@@ -129,129 +181,26 @@ public final class ModelTest {
             args[i] = odd[random.nextInt(odd.length)];
         }
         String[] names = {"relay", "client", "key", "weigh", "path", "seal", "circuit", "stream", "put", "push",
-            "close", "deliver", "drop", "alter", "waiting", "look", "settle", "state", "hops", "told", "got",
+            "close", "destroy", "deliver", "drop", "alter", "waiting", "look", "settle", "state", "hops", "told", "got",
             "kept", "has"};
-        call(names[random.nextInt(names.length)], args);
+        twin.call(names[random.nextInt(names.length)], args);
     }
 
     private void probe() {
         int link = busyLink();
         switch (random.nextInt(12)) {
-            case 0: call("key", some(5), random.nextInt(37)); break;
-            case 1: call("weigh", some(5), random.nextInt(3) == 0 ? 0 : random.nextInt(1002)); break;
-            case 2: call("path", random.nextLong(), random.nextInt(3)); break;
-            case 3: call("seal", random.nextInt(33)); break;
-            case 4: call("waiting", link / 10, link % 10); break;
-            case 5: call("state", some(6)); break;
-            case 6: call("hops", some(6)); break;
-            case 7: call("told", some(6), 1 + random.nextInt(4), random.nextInt(4)); break;
-            case 8: call("got", some(6), 1 + random.nextInt(4), random.nextInt(140)); break;
-            case 9: call("kept", some(5), random.nextInt(140)); break;
-            case 10: call("has", some(5), random.nextInt(3)); break;
-            default: call("look", link / 10, link % 10, random.nextInt(3), random.nextInt(140)); break;
-        }
-    }
-
-    private void call(String name, long... args) {
-        if (calls.size() >= CALLS) {
-            return;
-        }
-        int[] a = new int[4];
-        StringBuilder text = new StringBuilder(name).append('(');
-        for (int i = 0; i < args.length; i++) {
-            a[i] = (int) args[i];
-            text.append(i == 0 ? "" : ",").append(args[i]);
-        }
-        int due = modelAnswer(name, args[0], a);
-        int answer = netAnswer(name, args[0], a);
-        calls.add(text.append(")=").append(answer).toString());
-        if (answer != due) {
-            same = false;
-            calls.add("due is " + due);
-        }
-        if (Boolean.getBoolean("deep")) {
-            compareAll();
-        }
-    }
-
-    private int netAnswer(String name, long word, int[] a) {
-        switch (name) {
-            case "relay": return net.relay(word);
-            case "client": return net.client(word);
-            case "key": return net.key(a[0], a[1]);
-            case "weigh": return net.weigh(a[0], a[1]) ? 1 : 0;
-            case "path": return net.path(word, a[1]);
-            case "seal": return net.seal(a[0]);
-            case "circuit": return net.circuit(a[0], a[1], a[2], a[3]);
-            case "stream": return net.stream(a[0], a[1]);
-            case "put": return net.put(a[0], a[1], a[2]) ? 1 : 0;
-            case "push": return net.push(a[0], a[1]);
-            case "close": return net.close(a[0], a[1]) ? 1 : 0;
-            case "destroy": return net.destroy(a[0]) ? 1 : 0;
-            case "deliver": return net.deliver(a[0], a[1]);
-            case "drop": return net.drop(a[0], a[1]) ? 1 : 0;
-            case "alter": return net.alter(a[0], a[1], a[2], a[3]) ? 1 : 0;
-            case "waiting": return net.waiting(a[0], a[1]);
-            case "look": return net.look(a[0], a[1], a[2], a[3]);
-            case "settle": return net.settle(a[0]);
-            case "state": return net.state(a[0]);
-            case "hops": return net.hops(a[0]);
-            case "told": return net.told(a[0], a[1], a[2]);
-            case "got": return net.got(a[0], a[1], a[2]);
-            case "kept": return net.kept(a[0], a[1]);
-            default: return net.has(a[0], a[1]);
-        }
-    }
-
-    private int modelAnswer(String name, long word, int[] a) {
-        switch (name) {
-            case "relay": return model.relay(word);
-            case "client": return model.client(word);
-            case "key": return model.key(a[0], a[1]);
-            case "weigh": return model.weigh(a[0], a[1]) ? 1 : 0;
-            case "path": return model.path(word, a[1]);
-            case "seal": return model.seal(a[0]);
-            case "circuit": return model.circuit(a[0], a[1], a[2], a[3]);
-            case "stream": return model.stream(a[0], a[1]);
-            case "put": return model.put(a[0], a[1], a[2]) ? 1 : 0;
-            case "push": return model.push(a[0], a[1]);
-            case "close": return model.close(a[0], a[1]) ? 1 : 0;
-            case "destroy": return model.destroy(a[0]) ? 1 : 0;
-            case "deliver": return model.deliver(a[0], a[1]);
-            case "drop": return model.drop(a[0], a[1]) ? 1 : 0;
-            case "alter": return model.alter(a[0], a[1], a[2], a[3]) ? 1 : 0;
-            case "waiting": return model.waiting(a[0], a[1]);
-            case "look": return model.look(a[0], a[1], a[2], a[3]);
-            case "settle": return model.settle(a[0]);
-            case "state": return model.state(a[0]);
-            case "hops": return model.hops(a[0]);
-            case "told": return model.told(a[0], a[1], a[2]);
-            case "got": return model.got(a[0], a[1], a[2]);
-            case "kept": return model.kept(a[0], a[1]);
-            default: return model.has(a[0], a[1]);
-        }
-    }
-
-    /** For search by hand only (-Ddeep=true): it asks more than the 512 calls that are promised. */
-    private void compareAll() {
-        for (int link = 0; link < 100; link++) {
-            int waiting = model.waiting(link / 10, link % 10);
-            same &= waiting == net.waiting(link / 10, link % 10);
-            for (int i = 0; i < 140 * waiting; i++) {
-                same &= model.look(link / 10, link % 10, i / 140, i % 140)
-                        == net.look(link / 10, link % 10, i / 140, i % 140);
-            }
-        }
-        for (int circuit = 0; circuit < 6; circuit++) {
-            same &= model.state(circuit) == net.state(circuit) && model.hops(circuit) == net.hops(circuit);
-            for (int i = 0; i < 16; i++) {
-                same &= model.told(circuit, 1 + i / 4, i % 4) == net.told(circuit, 1 + i / 4, i % 4);
-            }
-        }
-        for (int relay = 0; relay < 6; relay++) {
-            for (int what = 0; what < 3; what++) {
-                same &= model.has(relay, what) == net.has(relay, what);
-            }
+            case 0: twin.call("key", some(5), random.nextInt(37)); break;
+            case 1: twin.call("weigh", some(5), random.nextInt(3) == 0 ? 0 : random.nextInt(1002)); break;
+            case 2: twin.call("path", random.nextLong(), random.nextInt(3)); break;
+            case 3: twin.call("seal", random.nextInt(33)); break;
+            case 4: twin.call("waiting", link / 10, link % 10); break;
+            case 5: twin.call("state", some(6)); break;
+            case 6: twin.call("hops", some(6)); break;
+            case 7: twin.call("told", some(6), 1 + random.nextInt(4), random.nextInt(4)); break;
+            case 8: twin.call("got", some(6), 1 + random.nextInt(4), random.nextInt(140)); break;
+            case 9: twin.call("kept", some(5), random.nextInt(140)); break;
+            case 10: twin.call("has", some(5), random.nextInt(3)); break;
+            default: twin.call("look", link / 10, link % 10, random.nextInt(3), random.nextInt(140)); break;
         }
     }
 }

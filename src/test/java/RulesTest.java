@@ -1,0 +1,122 @@
+import java.io.IOException;
+import java.lang.reflect.Field;
+import java.lang.reflect.Method;
+import java.lang.reflect.Modifier;
+import java.nio.file.Files;
+import java.nio.file.Path;
+import java.util.Arrays;
+import java.util.Set;
+import java.util.TreeSet;
+import java.util.regex.Matcher;
+import java.util.regex.Pattern;
+
+/** The face, and the rules of LANGUAGE.md that the class file or the text can show. */
+public final class RulesTest {
+    private static final Due DUE = new Due();
+    private static final Set<String> FACE = Set.of(
+            "int relay(long)", "int client(long)", "int key(int,int)", "boolean weigh(int,int)",
+            "int path(long,int)", "int seal(int)", "int circuit(int,int,int,int)", "int stream(int,int)",
+            "boolean put(int,int,int)", "int push(int,int)", "boolean close(int,int)", "boolean destroy(int)",
+            "int deliver(int,int)", "boolean drop(int,int)", "boolean alter(int,int,int,int)",
+            "int waiting(int,int)", "int look(int,int,int,int)", "int settle(int)", "int state(int)",
+            "int hops(int)", "int told(int,int,int)", "int got(int,int,int)", "int kept(int,int)",
+            "int has(int,int)");
+
+    private RulesTest() {
+    }
+
+    public static void main(String[] args) throws IOException {
+        face();
+        for (Class<?> inside : OnionNet.class.getDeclaredClasses()) {
+            classInside(inside);
+        }
+        text(Files.readString(Path.of("src/main/java/OnionNet.java")));
+        DUE.end();
+    }
+
+    private static String told(Method method) {
+        String[] types = Arrays.stream(method.getParameterTypes()).map(Class::getName).toArray(String[]::new);
+        return method.getReturnType().getName() + " " + method.getName() + "(" + String.join(",", types) + ")";
+    }
+
+    private static void face() {
+        int flags = OnionNet.class.getModifiers();
+        DUE.yes("public and final", Modifier.isPublic(flags) && Modifier.isFinal(flags));
+        DUE.is("constructors", OnionNet.class.getDeclaredConstructors().length, 1);
+        DUE.is("public constructors", OnionNet.class.getConstructors().length, 1);
+        Set<String> seen = new TreeSet<>();
+        for (Method method : OnionNet.class.getDeclaredMethods()) {
+            if (Modifier.isPublic(method.getModifiers())) {
+                seen.add(told(method));
+            } else {
+                DUE.yes(method + " is private", Modifier.isPrivate(method.getModifiers()));
+                ownName(method);
+            }
+        }
+        DUE.yes("the document's methods: " + seen, seen.equals(FACE));
+        for (Field field : OnionNet.class.getDeclaredFields()) {
+            DUE.yes(field + " is private or NONE",
+                    Modifier.isPrivate(field.getModifiers()) || field.getName().equals("NONE"));
+            fixed(field);
+        }
+    }
+
+    private static void classInside(Class<?> inside) {
+        DUE.yes(inside + " is static", Modifier.isStatic(inside.getModifiers()));
+        DUE.yes(inside + " is not public", !Modifier.isPublic(inside.getModifiers())
+                && !Modifier.isProtected(inside.getModifiers()));
+        for (Method method : inside.getDeclaredMethods()) {
+            ownName(method);
+            DUE.yes(method + " takes at most seven", method.getParameterCount() <= 7);
+        }
+        int fields = 0;
+        for (Field field : inside.getDeclaredFields()) {
+            fixed(field);
+            fields += Modifier.isStatic(field.getModifiers()) ? 0 : 1;
+        }
+        DUE.yes(inside + " has some twenty fields", fields <= 20);
+    }
+
+    private static void ownName(Method method) {
+        DUE.yes(method + " bears a name of its own",
+                FACE.stream().noneMatch(one -> one.contains(" " + method.getName() + "(")));
+    }
+
+    private static void fixed(Field field) {
+        int flags = field.getModifiers();
+        DUE.yes(field + " is final, if static", !Modifier.isStatic(flags) || Modifier.isFinal(flags));
+    }
+
+    private static void text(String source) {
+        String bare = source.replaceAll("(?s)/\\*.*?\\*/", "").replaceAll("//[^\n]*", "");
+        String[] banned = {"throw", "throws", "try", "catch", "synchronized", "assert", "static \\{", "->", "::",
+            "package", "Exact", "Object", "System\\.(?!arraycopy)", "Integer", "Long", "\\.equals", "toString"};
+        for (String word : banned) {
+            boolean letters = Character.isLetter(word.charAt(0)) && Character.isLetter(word.charAt(word.length() - 1));
+            Matcher found = Pattern.compile(letters ? "\\b" + word + "\\b" : word).matcher(bare);
+            DUE.no(word + " is in the text", found.find());
+        }
+        Matcher imports = Pattern.compile("import ([^;]*);").matcher(bare);
+        while (imports.find()) {
+            DUE.yes(imports.group(1) + " is in the list", imports.group(1).equals("java.util.Arrays"));
+        }
+        Matcher classes = Pattern.compile("\\bclass \\w+").matcher(bare);
+        DUE.yes("some twelve classes", classes.results().count() <= 12);
+        methods(source.split("\n"));
+    }
+
+    /** A method's first line stands at one or two indents and ends with its brace. */
+    private static void methods(String[] lines) {
+        Pattern start = Pattern.compile("( {4}| {8})[^ /*}].*\\) \\{");
+        for (int i = 0; i < lines.length; i++) {
+            Matcher first = start.matcher(lines[i]);
+            if (first.matches() && !lines[i].contains(" class ")) {
+                int end = i;
+                while (end < lines.length && !lines[end].equals(first.group(1) + "}")) {
+                    end++;
+                }
+                DUE.yes(lines[i].trim() + " is short: " + (end - i + 1), end - i < 60);
+            }
+        }
+    }
+}

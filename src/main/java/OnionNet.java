@@ -1169,7 +1169,7 @@ public final class OnionNet {
         }
     }
 
-    /** A relay, and what it does with cells. */
+    /** A relay, and what it does with cells. Its entries are made with it and used again. */
     private static final class Relay {
         static final int FIRST_NUMBER = 1000;
         static final int FIRST_WEIGHT = 10;
@@ -1192,20 +1192,23 @@ public final class OnionNet {
             this.node = node;
             this.others = others;
             this.handshake = handshake;
+            for (int i = 0; i < MOST_ENTRIES; i++) {
+                entries[i] = new Entry(handshake.trial);
+            }
         }
 
         int entryCount() {
             int count = 0;
-            for (int i = 0; i < MOST_ENTRIES; i++) {
-                count += entries[i] != null && entries[i].used ? 1 : 0;
+            for (Entry entry : entries) {
+                count += entry.used ? 1 : 0;
             }
             return count;
         }
 
         int streamCount() {
             int count = 0;
-            for (int i = 0; i < MOST_ENTRIES; i++) {
-                count += entries[i] != null && entries[i].used ? entries[i].streamCount : 0;
+            for (Entry entry : entries) {
+                count += entry.used ? entry.streamCount : 0;
             }
             return count;
         }
@@ -1243,9 +1246,8 @@ public final class OnionNet {
         }
 
         private Entry entryFrom(int from, int number) {
-            for (int i = 0; i < MOST_ENTRIES; i++) {
-                Entry entry = entries[i];
-                if (entry != null && entry.used && entry.fromNode == from && entry.fromNumber == number) {
+            for (Entry entry : entries) {
+                if (entry.used && entry.fromNode == from && entry.fromNumber == number) {
                     return entry;
                 }
             }
@@ -1253,9 +1255,8 @@ public final class OnionNet {
         }
 
         private Entry entryTo(int to, int number) {
-            for (int i = 0; i < MOST_ENTRIES; i++) {
-                Entry entry = entries[i];
-                if (entry != null && entry.used && entry.onNode == to && entry.onNumber == number) {
+            for (Entry entry : entries) {
+                if (entry.used && entry.onNode == to && entry.onNumber == number) {
                     return entry;
                 }
             }
@@ -1263,12 +1264,9 @@ public final class OnionNet {
         }
 
         private Entry freeEntry() {
-            for (int i = 0; i < MOST_ENTRIES; i++) {
-                if (entries[i] == null) {
-                    entries[i] = new Entry(handshake.trial);
-                }
-                if (!entries[i].used) {
-                    return entries[i];
+            for (Entry entry : entries) {
+                if (!entry.used) {
+                    return entry;
                 }
             }
             return null;

@@ -153,7 +153,6 @@ public final class OnionNet {
         owner.nextNumber++;
         circuits[number] = made;
         circuitCount++;
-        out.empty();
         made.begin(out);
         sendAll(client);
         return number;
@@ -164,7 +163,6 @@ public final class OnionNet {
         if (asked == null || port < 0 || port > 255) {
             return NONE;
         }
-        out.empty();
         int number = asked.addStream(port, out);
         sendAll(asked.client.number);
         return number;
@@ -184,7 +182,6 @@ public final class OnionNet {
         if (asked.waits == 0 || asked.phase != OPEN || asked.window == 0) {
             return 0;
         }
-        out.empty();
         int count = Math.min(asked.waits, MOST_DATA);
         asked.unqueue(within.toLast(out, DATA, stream, count), count);
         asked.window--;
@@ -199,7 +196,6 @@ public final class OnionNet {
         if (within == null || asked == null || asked.phase == GONE) {
             return false;
         }
-        out.empty();
         within.toLast(out, END, stream, 0);
         within.sealAll(out);
         asked.phase = GONE;
@@ -212,7 +208,6 @@ public final class OnionNet {
         if (asked == null || asked.phase == GONE) {
             return false;
         }
-        out.empty();
         asked.fall(out);
         sendAll(asked.client.number);
         return true;
@@ -390,7 +385,6 @@ public final class OnionNet {
         link.takeFirst(cell);
         int command = cell[AT_COMMAND];
         int number = Outbox.numberOf(cell);
-        out.empty();
         Relay relay = relayAt(to);
         Circuit circuit = relay == null ? circuitBy(to, from, number) : null;
         if (relay != null) {
@@ -413,6 +407,7 @@ public final class OnionNet {
         return null;
     }
 
+    /** Leaves the outbox empty for the next call. */
     private void sendAll(int from) {
         for (int i = 0; i < out.count; i++) {
             Link link = linkAt(from, out.to[i]);
@@ -1098,7 +1093,6 @@ public final class OnionNet {
                 if (plain[i]) {
                     lane.sign(cells[i]);
                     lane.lay(cells[i]);
-                    plain[i] = false;
                 }
             }
         }
@@ -1130,7 +1124,6 @@ public final class OnionNet {
             fromNode = from;
             fromNumber = number;
             onNode = NONE;
-            onNumber = 0;
             waits = false;
             streamCount = 0;
         }
@@ -1463,7 +1456,6 @@ public final class OnionNet {
                     for (int hop = joined - 1; hop >= 0; hop--) {
                         forward[hop].lay(out.cells[i]);
                     }
-                    out.plain[i] = false;
                 }
             }
         }

@@ -183,6 +183,7 @@ public final class PromiseTest {
         for (int k : new int[] {-1, 3, LOW, HIGH}) {
             DUE.is("path of other k", net.path(0, k), NONE);
         }
+        DUE.is("no fourth, though some are left", net(6, 0).path(0, 3), NONE);
         net.weigh(0, 0);
         net.weigh(1, 0);
         net.weigh(2, 0);

@@ -36,6 +36,14 @@ public final class TermsTest {
         new TermsTest().destroyWhileItWaits();
         new TermsTest().relayCellWhileItWaits();
         new TermsTest().pointsOfLowOrder();
+        new TermsTest().otherPoints();
+        new TermsTest().cellsOfBuilding();
+        new TermsTest().cellsOfStreams();
+        new TermsTest().cellsOfThreeHops();
+        new TermsTest().cellThatIsAlmostRecognized();
+        new TermsTest().numbersOfFourBytes();
+        new TermsTest().bytesOfAnAnswer();
+        new TermsTest().placesUsedAgain();
         DUE.end();
     }
 
@@ -50,6 +58,14 @@ public final class TermsTest {
     private void end() {
         DUE.yes("as the model: " + (twin.same ? "" : twin.calls.get(twin.calls.size() - 1)), twin.same);
         DUE.yes("within the calls of one object", twin.calls.size() < Twin.CALLS);
+    }
+
+    /** Every byte of a cell, as the model has it. */
+    private void lookAll(int from, int to, int k) {
+        DUE.yes("a cell lies there", call("look", from, to, k, 0) != NONE);
+        for (int i = 1; i < 140; i++) {
+            call("look", from, to, k, i);
+        }
     }
 
     private void open(int hops) {
@@ -138,6 +154,7 @@ public final class TermsTest {
         forged(1, 5, 1, 2);
         due("no more than four", 4, "has", 0, 1);
         due("the entry stays", 1, "has", 0, 0);
+        lookAll(0, 8, 0);
         due("END comes", 3, "deliver", 0, 8);
         due("the circuit stays", 1, "state", 0);
         forged(3, 2, 0);
@@ -157,6 +174,15 @@ public final class TermsTest {
             due("gone", 2, "state", 0);
             end();
         }
+        open(1);
+        for (int i = 3; i < 6; i++) {
+            call("relay", 20 + i);
+        }
+        call("stream", 0, 1);
+        forge(14, 0, 69, 6);
+        call("settle", 200);
+        due("no relay 6, ever", 0, "has", 0, 0);
+        end();
         open(1);
         call("stream", 0, 1);
         forge(14, 9, 69, 2);
@@ -325,6 +351,7 @@ public final class TermsTest {
             due("gone", 2, "state", 0);
             due("its stream, too", 2, "told", 0, 1, 0);
             due("DESTROY", 4, "look", 8, 0, 0, 4);
+            lookAll(8, 0, 0);
             end();
         }
     }
@@ -578,6 +605,235 @@ public final class TermsTest {
         }
         call("deliver", 0, 8);
         due("not right", 2, "state", 0);
+        end();
+    }
+
+    /** Half of all numbers are on the curve's twist, where X25519 holds as well. */
+    private void otherPoints() {
+        for (int mask = 1; mask < 9; mask++) {
+            twin = new Twin();
+            call("relay", 1);
+            call("client", 3);
+            call("circuit", 8, 0, NONE, NONE);
+            call("alter", 8, 0, 41, mask);
+            call("alter", 8, 0, 72, 128);
+            call("deliver", 8, 0);
+            lookAll(0, 8, 0);
+            end();
+        }
+    }
+
+    private void building() {
+        twin = new Twin();
+        for (int i = 0; i < 3; i++) {
+            call("relay", 40 + i);
+        }
+        call("client", 50);
+        call("circuit", 8, 2, 0, 1);
+    }
+
+    private void cellsOfBuilding() {
+        building();
+        call("settle", 2);
+        lookAll(8, 2, 0);
+        call("deliver", 8, 2);
+        lookAll(2, 0, 0);
+        call("deliver", 2, 0);
+        lookAll(0, 2, 0);
+        end();
+        building();
+        call("settle", 5);
+        lookAll(2, 8, 0);
+        call("deliver", 2, 8);
+        lookAll(8, 2, 0);
+        call("deliver", 8, 2);
+        lookAll(2, 0, 0);
+        end();
+        building();
+        call("settle", 10);
+        lookAll(0, 2, 0);
+        call("deliver", 0, 2);
+        lookAll(2, 8, 0);
+        call("destroy", 0);
+        lookAll(8, 2, 0);
+        end();
+    }
+
+    private void cellsOfStreams() {
+        open(1);
+        call("stream", 0, 1);
+        lookAll(8, 0, 0);
+        call("deliver", 8, 0);
+        lookAll(0, 8, 0);
+        call("deliver", 0, 8);
+        call("put", 0, 1, 200);
+        call("push", 0, 1);
+        lookAll(8, 0, 0);
+        end();
+        open(1);
+        call("stream", 0, 1);
+        call("settle", 200);
+        for (int i = 0; i < 2; i++) {
+            call("put", 0, 1, i);
+            call("push", 0, 1);
+            call("deliver", 8, 0);
+        }
+        lookAll(0, 8, 1);
+        lookAll(0, 8, 2);
+        call("settle", 3);
+        lookAll(8, 0, 0);
+        end();
+        open(1);
+        call("stream", 0, 3);
+        call("deliver", 8, 0);
+        lookAll(0, 8, 0);
+        call("stream", 0, 1);
+        call("deliver", 8, 0);
+        call("close", 0, 2);
+        lookAll(8, 0, 0);
+        call("put", 0, 1, 1);
+        end();
+    }
+
+    private void cellsOfThreeHops() {
+        open(3);
+        call("stream", 0, 2);
+        lookAll(8, 0, 0);
+        call("deliver", 8, 0);
+        lookAll(0, 1, 0);
+        call("deliver", 0, 1);
+        lookAll(1, 2, 0);
+        end();
+        open(3);
+        call("stream", 0, 2);
+        call("settle", 3);
+        lookAll(2, 1, 0);
+        call("deliver", 2, 1);
+        lookAll(1, 0, 0);
+        call("deliver", 1, 0);
+        lookAll(0, 8, 0);
+        end();
+    }
+
+    /** All is right but the digest: the cell goes on just as the cipher left it. */
+    private void cellThatIsAlmostRecognized() {
+        open(2);
+        call("stream", 0, 1);
+        List<Model.Side> layers = twin.layers(8, 0, 0);
+        byte[] payload = Twin.payload(1, 1, 1, (byte) 1);
+        System.arraycopy(layers.get(0).due(payload), 0, payload, 5, 4);
+        payload[8] ^= 1;
+        twin.alterTo(8, 0, layers, payload);
+        due("handed over", 3, "deliver", 8, 0);
+        lookAll(0, 1, 0);
+        due("the next one does not know it either", 3, "deliver", 0, 1);
+        due("DESTROY", 4, "deliver", 1, 0);
+        end();
+    }
+
+    private void numbersOfFourBytes() {
+        twin = new Twin();
+        call("relay", 1);
+        call("client", 3);
+        for (int i = 0; i < 4; i++) {
+            call("circuit", 8, 0, NONE, NONE);
+            for (int at = 0; at < 4; at++) {
+                int now = call("look", 8, 0, 0, at);
+                int want = at == i ? 255 - i : 0;
+                if (now != want) {
+                    call("alter", 8, 0, at, now ^ want);
+                }
+            }
+            due("CREATE", 10, "deliver", 8, 0);
+            due("CREATED", 11, "look", 0, 8, i, 4);
+            for (int at = 0; at < 4; at++) {
+                due("its number", at == i ? 255 - i : 0, "look", 0, 8, i, at);
+            }
+            due("another entry", i + 1, "has", 0, 0);
+        }
+        due("left out by the client", 4, "settle", 200);
+        due("still building", 0, "state", 0);
+        end();
+    }
+
+    private void bytesOfAnAnswer() {
+        twin = new Twin();
+        call("relay", 1);
+        call("client", 3);
+        int[] at = {5, 36, 37, 38, 68, 69};
+        for (int i = 0; i < 6; i++) {
+            call("circuit", 8, 0, NONE, NONE);
+            call("deliver", 8, 0);
+            call("alter", 0, 8, at[i], 128);
+            call("deliver", 0, 8);
+            due("right or not", at[i] < 69 ? 2 : 1, "state", i);
+            call("drop", 8, 0);
+        }
+        end();
+    }
+
+    /** What a stream that has ended left behind is not the next one's, nor the last one's. */
+    private void placesUsedAgain() {
+        open(1);
+        call("stream", 0, 1);
+        call("stream", 0, 1);
+        call("settle", 200);
+        call("put", 0, 1, 1);
+        call("push", 0, 1);
+        call("deliver", 8, 0);
+        call("close", 0, 1);
+        call("deliver", 8, 0);
+        due("one echo", 1, "waiting", 0, 8);
+        for (int i = 0; i < 4; i++) {
+            call("put", 0, 2, 1);
+            call("push", 0, 2);
+            call("deliver", 8, 0);
+        }
+        due("a whole window, and SENDME twice", 7, "waiting", 0, 8);
+        call("stream", 0, 2);
+        call("deliver", 8, 0);
+        due("CONNECTED", 8, "waiting", 0, 8);
+        due("all come, and SENDME twice", 10, "settle", 200);
+        call("put", 0, 3, 9);
+        call("push", 0, 3);
+        call("settle", 200);
+        due("no SENDME for its first", 3, "told", 0, 3, 1);
+        end();
+        open(1);
+        call("stream", 0, 1);
+        call("stream", 0, 2);
+        call("settle", 200);
+        call("put", 0, 1, 1);
+        call("push", 0, 1);
+        call("settle", 200);
+        call("close", 0, 1);
+        call("close", 0, 2);
+        call("stream", 0, 2);
+        call("settle", 200);
+        call("put", 0, 3, 1);
+        call("push", 0, 3);
+        call("settle", 200);
+        due("its first", 3, "told", 0, 3, 1);
+        call("put", 0, 3, 1);
+        call("push", 0, 3);
+        call("settle", 200);
+        due("its second", 4, "told", 0, 3, 1);
+        end();
+        open(1);
+        call("stream", 0, 1);
+        call("stream", 0, 1);
+        call("settle", 200);
+        for (int i = 0; i < 4; i++) {
+            call("put", 0, 1, 1);
+            call("push", 0, 1);
+            call("deliver", 8, 0);
+        }
+        call("close", 0, 1);
+        call("deliver", 8, 0);
+        call("put", 0, 2, 1);
+        call("push", 0, 2);
+        call("deliver", 8, 0);
+        due("its window is its own", 7, "waiting", 0, 8);
         end();
     }
 }

@@ -220,9 +220,9 @@ public final class PromiseTest {
     private static void promise08Circuit() {
         OnionNet net = net(3, 1);
         int[][] wrong = {{8, NONE, NONE, NONE}, {8, 3, NONE, NONE}, {8, 0, 3, NONE}, {8, 0, 1, 3}, {8, 0, NONE, 1},
-            {8, 0, 0, NONE}, {8, 0, 1, 0}, {8, 0, 1, 1}, {9, 0, 1, 2}, {7, 0, 1, 2}, {0, 0, 1, 2}, {8, -2, 1, 2},
-            {8, 0, -2, NONE}, {8, 0, -2, 1}, {8, 0, 1, -2}, {LOW, 0, 1, 2}, {HIGH, 0, 1, 2}, {8, LOW, 1, 2},
-            {8, HIGH, 1, 2}, {8, 0, LOW, 2}, {8, 0, 1, HIGH}, {8, 8, NONE, NONE}, {NONE, 0, 1, 2}};
+            {8, 0, 0, NONE}, {8, 0, 1, 0}, {8, 0, 1, 1}, {9, 0, 1, 2}, {10, 0, 1, 2}, {7, 0, 1, 2}, {0, 0, 1, 2},
+            {8, -2, 1, 2}, {8, 0, -2, NONE}, {8, 0, -2, 1}, {8, 0, 1, -2}, {LOW, 0, 1, 2}, {HIGH, 0, 1, 2},
+            {8, LOW, 1, 2}, {8, HIGH, 1, 2}, {8, 0, LOW, 2}, {8, 0, 1, HIGH}, {8, 8, NONE, NONE}, {NONE, 0, 1, 2}};
         for (int[] w : wrong) {
             DUE.is("circuit " + Arrays.toString(w), net.circuit(w[0], w[1], w[2], w[3]), NONE);
         }

@@ -80,6 +80,31 @@ final class Crypto {
                 unused -> product(scalar, point)).clone();
     }
 
+    static byte[] secret(long seed) {
+        return sha(NAME, one(2), number(seed, 8));
+    }
+
+    /** A relay's KEY and behind it its MARK, as the call 'key' tells them. */
+    static byte[] keyAndMark(long seed) {
+        byte[] key = curve(secret(seed), base());
+        return join(key, Arrays.copyOf(sha(NAME, one(3), key), 4));
+    }
+
+    static byte[] draw(long seed, int n) {
+        return sha(NAME, one(1), number(seed, 8), number(n, 4));
+    }
+
+    /** The seal of relays of the seeds 1, 2, .. that have these weights. */
+    static byte[] seal(int... weights) {
+        byte[] table = join(NAME, one(6));
+        for (int r = 0; r < weights.length; r++) {
+            byte[] key = keyAndMark(r + 1);
+            table = join(table, one(r), number(weights[r], 2), Arrays.copyOfRange(key, 32, 36),
+                    Arrays.copyOf(key, 32));
+        }
+        return sha(table);
+    }
+
     private static BigInteger littleEndian(byte[] row) {
         byte[] turned = new byte[row.length];
         for (int i = 0; i < row.length; i++) {

@@ -1,13 +1,24 @@
 /** Counts the answers that are not as due, and ends the program by them. */
 final class Due {
+    /** More than these only hide each other. */
+    private static final int MOST_TOLD = 40;
+
     private int asked;
     private int wrong;
+    private String test = "";
+
+    /** What is wrong from here on is told with the test's name. */
+    void begin(String name) {
+        test = name + ": ";
+    }
 
     void is(String what, long got, long want) {
         asked++;
         if (got != want) {
             wrong++;
-            System.out.println(what + " answered " + got + ", due is " + want);
+        }
+        if (got != want && wrong <= MOST_TOLD) {
+            System.out.println(test + what + " answered " + got + ", due is " + want);
         }
     }
 
@@ -17,6 +28,10 @@ final class Due {
 
     void no(String what, boolean got) {
         is(what, got ? 1 : 0, 0);
+    }
+
+    void fails(String what) {
+        yes(what, false);
     }
 
     void end() {

@@ -24,7 +24,7 @@ public final class ModelTest {
             test.run(run % 8);
             if (!test.twin.same) {
                 wrong++;
-                System.out.println("run " + run + " differs: " + String.join(" ", test.twin.calls));
+                System.out.println("run " + run + " differs, " + test.twin.difference + ": " + test.twin.made);
             }
         }
         System.out.println(wrong == 0 ? runs + " runs agree with the model" : wrong + " runs differ");
@@ -34,7 +34,7 @@ public final class ModelTest {
     }
 
     private boolean goesOn() {
-        return twin.same && twin.calls.size() < Twin.CALLS;
+        return twin.same && twin.made.size() < Face.CALLS;
     }
 
     private void run(int kind) {
@@ -180,10 +180,7 @@ public final class ModelTest {
         for (int i = 0; i < 4; i++) {
             args[i] = odd[random.nextInt(odd.length)];
         }
-        String[] names = {"relay", "client", "key", "weigh", "path", "seal", "circuit", "stream", "put", "push",
-            "close", "destroy", "deliver", "drop", "alter", "waiting", "look", "settle", "state", "hops", "told", "got",
-            "kept", "has"};
-        twin.call(names[random.nextInt(names.length)], args);
+        twin.call(Face.NAMES.get(random.nextInt(Face.NAMES.size())), args);
     }
 
     private void probe() {

@@ -61,19 +61,6 @@ public final class PromiseTest {
         return net;
     }
 
-    private static byte[] secret(long seed) {
-        return Crypto.sha(Crypto.NAME, Crypto.one(2), Crypto.number(seed, 8));
-    }
-
-    private static byte[] keyAndMark(long seed) {
-        byte[] key = Crypto.curve(secret(seed), Crypto.base());
-        return Crypto.join(key, Arrays.copyOf(Crypto.sha(Crypto.NAME, Crypto.one(3), key), 4));
-    }
-
-    private static byte[] draw(long seed, int n) {
-        return Crypto.sha(Crypto.NAME, Crypto.one(1), Crypto.number(seed, 8), Crypto.number(n, 4));
-    }
-
     private static void promise01NewObject() {
         OnionNet net = new OnionNet();
         DUE.is("new key", net.key(0, 0), NONE);
@@ -131,7 +118,7 @@ public final class PromiseTest {
         OnionNet net = new OnionNet();
         for (int r = 0; r < seeds.length; r++) {
             net.relay(seeds[r]);
-            byte[] want = keyAndMark(seeds[r]);
+            byte[] want = Crypto.keyAndMark(seeds[r]);
             for (int i = 0; i < 36; i++) {
                 DUE.is("key " + seeds[r], net.key(r, i), want[i] & 255);
             }
@@ -190,28 +177,18 @@ public final class PromiseTest {
         DUE.is("all weigh 0", net.path(0, 0), NONE);
     }
 
-    private static byte[] table(int[] weights) {
-        byte[] table = Crypto.join(Crypto.NAME, Crypto.one(6));
-        for (int r = 0; r < weights.length; r++) {
-            byte[] key = keyAndMark(r + 1);
-            table = Crypto.join(table, Crypto.one(r), Crypto.number(weights[r], 2),
-                    Arrays.copyOfRange(key, 32, 36), Arrays.copyOf(key, 32));
-        }
-        return Crypto.sha(table);
-    }
-
     private static void promise07Seal() {
         for (int relays = 0; relays <= 6; relays++) {
             OnionNet net = net(relays, 2);
             int[] weights = new int[relays];
             Arrays.fill(weights, 10);
             for (int i = 0; i < 32; i++) {
-                DUE.is("seal of " + relays, net.seal(i), table(weights)[i] & 255);
+                DUE.is("seal of " + relays, net.seal(i), Crypto.seal(weights)[i] & 255);
             }
         }
         OnionNet net = net(2, 0);
         net.weigh(1, 1000);
-        DUE.is("seal with a weight of two bytes", net.seal(31), table(new int[] {10, 1000})[31] & 255);
+        DUE.is("seal with a weight of two bytes", net.seal(31), Crypto.seal(new int[] {10, 1000})[31] & 255);
         for (int i : new int[] {-1, 32, LOW, HIGH}) {
             DUE.is("no such byte of a seal", net.seal(i), NONE);
         }
@@ -249,20 +226,20 @@ public final class PromiseTest {
         OnionNet net = net(2, 1);
         net.circuit(8, 1, NONE, NONE);
         net.circuit(8, 1, 0, NONE);
-        byte[] key = keyAndMark(2);
+        byte[] key = Crypto.keyAndMark(2);
         for (int n = 0; n < 2; n++) {
             byte[] want = Arrays.copyOf(Crypto.join(Crypto.number(n + 1, 4), Crypto.one(10),
                     Arrays.copyOfRange(key, 32, 36), Arrays.copyOf(key, 32),
-                    Crypto.curve(draw(101, n), Crypto.base())), 140);
+                    Crypto.curve(Crypto.draw(101, n), Crypto.base())), 140);
             for (int i = 0; i < 140; i++) {
                 DUE.is("byte " + i + " of CREATE", net.look(8, 1, n, i), want[i] & 255);
             }
         }
         net.deliver(8, 1);
-        byte[] y = draw(2, 0);
+        byte[] y = Crypto.draw(2, 0);
         byte[] big = Crypto.curve(y, Crypto.base());
-        byte[] x = Crypto.curve(draw(101, 0), Crypto.base());
-        byte[] s = Crypto.join(Crypto.curve(y, x), Crypto.curve(secret(2), x), Arrays.copyOfRange(key, 32, 36),
+        byte[] x = Crypto.curve(Crypto.draw(101, 0), Crypto.base());
+        byte[] s = Crypto.join(Crypto.curve(y, x), Crypto.curve(Crypto.secret(2), x), Arrays.copyOfRange(key, 32, 36),
                 Arrays.copyOf(key, 32), x, big, Crypto.NAME);
         byte[] want = Arrays.copyOf(Crypto.join(Crypto.number(1, 4), Crypto.one(11), big,
                 Crypto.hmac(Crypto.join(Crypto.NAME, Crypto.one(4)), s)), 140);

@@ -5,29 +5,27 @@ import java.util.List;
 
 /** An OnionNet and a Model that get the same calls; it notes the first answer that differs. */
 final class Twin {
-    static final int CALLS = 512;
-
     final OnionNet net = new OnionNet();
     final Model model = new Model();
-    final List<String> calls = new ArrayList<>();
+    final List<Face.Call> made = new ArrayList<>();
     boolean same = true;
+    /** The first answer that differs. */
+    String difference = "";
+    /** More calls were asked for than one object has. */
+    boolean over;
 
     int call(String name, long... args) {
-        if (calls.size() >= CALLS) {
+        if (made.size() >= Face.CALLS) {
+            over = true;
             return 0;
         }
-        int[] a = new int[4];
-        StringBuilder text = new StringBuilder(name).append('(');
-        for (int i = 0; i < args.length; i++) {
-            a[i] = (int) args[i];
-            text.append(i == 0 ? "" : ",").append(args[i]);
-        }
-        int due = modelAnswer(name, args[0], a);
-        int answer = netAnswer(name, args[0], a);
-        calls.add(text.append(")=").append(answer).toString());
+        Face.Call call = new Face.Call(name, args);
+        int due = Face.answer(model, call);
+        int answer = Face.answer(net, call);
+        made.add(call);
         if (answer != due && same) {
             same = false;
-            calls.add("due is " + due);
+            difference = call + " answered " + answer + ", due is " + due;
         }
         if (Boolean.getBoolean("deep")) {
             compareAll();
@@ -89,66 +87,6 @@ final class Twin {
             }
         }
         return layers;
-    }
-
-    private int netAnswer(String name, long word, int[] a) {
-        switch (name) {
-            case "relay": return net.relay(word);
-            case "client": return net.client(word);
-            case "key": return net.key(a[0], a[1]);
-            case "weigh": return net.weigh(a[0], a[1]) ? 1 : 0;
-            case "path": return net.path(word, a[1]);
-            case "seal": return net.seal(a[0]);
-            case "circuit": return net.circuit(a[0], a[1], a[2], a[3]);
-            case "stream": return net.stream(a[0], a[1]);
-            case "put": return net.put(a[0], a[1], a[2]) ? 1 : 0;
-            case "push": return net.push(a[0], a[1]);
-            case "close": return net.close(a[0], a[1]) ? 1 : 0;
-            case "destroy": return net.destroy(a[0]) ? 1 : 0;
-            case "deliver": return net.deliver(a[0], a[1]);
-            case "drop": return net.drop(a[0], a[1]) ? 1 : 0;
-            case "alter": return net.alter(a[0], a[1], a[2], a[3]) ? 1 : 0;
-            case "waiting": return net.waiting(a[0], a[1]);
-            case "look": return net.look(a[0], a[1], a[2], a[3]);
-            case "settle": return net.settle(a[0]);
-            case "state": return net.state(a[0]);
-            case "hops": return net.hops(a[0]);
-            case "told": return net.told(a[0], a[1], a[2]);
-            case "got": return net.got(a[0], a[1], a[2]);
-            case "kept": return net.kept(a[0], a[1]);
-            case "has": return net.has(a[0], a[1]);
-            default: throw new IllegalArgumentException(name);
-        }
-    }
-
-    private int modelAnswer(String name, long word, int[] a) {
-        switch (name) {
-            case "relay": return model.relay(word);
-            case "client": return model.client(word);
-            case "key": return model.key(a[0], a[1]);
-            case "weigh": return model.weigh(a[0], a[1]) ? 1 : 0;
-            case "path": return model.path(word, a[1]);
-            case "seal": return model.seal(a[0]);
-            case "circuit": return model.circuit(a[0], a[1], a[2], a[3]);
-            case "stream": return model.stream(a[0], a[1]);
-            case "put": return model.put(a[0], a[1], a[2]) ? 1 : 0;
-            case "push": return model.push(a[0], a[1]);
-            case "close": return model.close(a[0], a[1]) ? 1 : 0;
-            case "destroy": return model.destroy(a[0]) ? 1 : 0;
-            case "deliver": return model.deliver(a[0], a[1]);
-            case "drop": return model.drop(a[0], a[1]) ? 1 : 0;
-            case "alter": return model.alter(a[0], a[1], a[2], a[3]) ? 1 : 0;
-            case "waiting": return model.waiting(a[0], a[1]);
-            case "look": return model.look(a[0], a[1], a[2], a[3]);
-            case "settle": return model.settle(a[0]);
-            case "state": return model.state(a[0]);
-            case "hops": return model.hops(a[0]);
-            case "told": return model.told(a[0], a[1], a[2]);
-            case "got": return model.got(a[0], a[1], a[2]);
-            case "kept": return model.kept(a[0], a[1]);
-            case "has": return model.has(a[0], a[1]);
-            default: throw new IllegalArgumentException(name);
-        }
     }
 
     /** For search by hand only (-Ddeep=true): it asks more than the 512 calls that are promised. */

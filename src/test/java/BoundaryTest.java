@@ -398,9 +398,9 @@ public final class BoundaryTest extends Bench {
 
     /** Promise 8: "or there were 6." */
     void promise08SixInAll() {
-        nodes(2, 2);
+        nodes(3, 2);
         for (int i = 0; i < 6; i++) {
-            is(i, "circuit", 8 + i % 2, i % 2, NONE, NONE);
+            is(i, "circuit", 8 + i % 2, i % 3, (i + 1) % 3, NONE);
         }
         refused("circuit", 8, 0, NONE, NONE);
         refused("circuit", 9, 1, 0, NONE);

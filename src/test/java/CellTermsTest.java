@@ -40,7 +40,10 @@ public final class CellTermsTest extends Bench {
 
     // ---- cells
 
-    /** Terms: "A CELL has 140 bytes: a circuit number (4), a command (1: CREATE 10, CREATED 11, RELAY 3, DESTROY 4)". */
+    /**
+     * Terms: "A CELL has 140 bytes: a circuit number (4), a command (1: CREATE 10, CREATED 11, RELAY 3,
+     * DESTROY 4)".
+     */
     void commandsOfCells() {
         building(2);
         is(CREATE, "look", 8, 0, 0, 4);
@@ -71,7 +74,7 @@ public final class CellTermsTest extends Bench {
             call("circuit", 8, 0, NONE, NONE);
             for (int at = 0; at < 4; at++) {
                 int now = call("look", 8, 0, 0, at);
-                int want = at == i ? 255 - i : 0;
+                int want = at == i ? 255 : 0;
                 if (now != want) {
                     call("alter", 8, 0, at, now ^ want);
                 }
@@ -79,7 +82,7 @@ public final class CellTermsTest extends Bench {
             is(CREATE, "deliver", 8, 0);
             is(CREATED, "look", 0, 8, i, 4);
             for (int at = 0; at < 4; at++) {
-                due("its number", at == i ? 255 - i : 0, "look", 0, 8, i, at);
+                due("its number", at == i ? 255 : 0, "look", 0, 8, i, at);
             }
             due("another entry", i + 1, "has", 0, 0);
         }
@@ -281,7 +284,10 @@ public final class CellTermsTest extends Bench {
         due("not right", GONE, "state", 0);
     }
 
-    /** Terms: "CURVE ( scalar, point ) is X25519". Half of all numbers are on the curve's twist, where it holds as well. */
+    /**
+     * Terms: "CURVE ( scalar, point ) is X25519". Half of all numbers are on the curve's twist, where it
+     * holds as well.
+     */
     void otherPoints() {
         for (int mask = 1; mask < 9; mask++) {
             building(1);

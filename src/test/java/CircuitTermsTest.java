@@ -96,7 +96,10 @@ public final class CircuitTermsTest extends Bench {
         lookAll(0, 8, 0);
     }
 
-    /** Terms: "A PAYLOAD of RELAY has a command (1: BEGIN 1, DATA 2, END 3, CONNECTED 4, SENDME 5, EXTEND 14, EXTENDED 15)". */
+    /**
+     * Terms: "A PAYLOAD of RELAY has a command (1: BEGIN 1, DATA 2, END 3, CONNECTED 4, SENDME 5, EXTEND
+     * 14, EXTENDED 15)".
+     */
     void cellsOfStreams() {
         open(1);
         call("stream", 0, ECHO);
@@ -125,7 +128,10 @@ public final class CircuitTermsTest extends Bench {
 
     // ---- cells that are not the circuit's, or not now
 
-    /** Terms: "Of a cell from a circuit's first relay with its number, when it is not gone". Those of one that is gone. */
+    /**
+     * Terms: "Of a cell from a circuit's first relay with its number, when it is not gone". Those of one
+     * that is gone.
+     */
     void cellsOfAGoneCircuit() {
         streaming(1, ECHO);
         pushes(0, 1, 2);
@@ -151,7 +157,10 @@ public final class CircuitTermsTest extends Bench {
         leftOut(DESTROY, 0, 8);
     }
 
-    /** Terms: "Of a cell from a circuit's first relay with its number". Those from another node, or of another number. */
+    /**
+     * Terms: "Of a cell from a circuit's first relay with its number". Those from another node, or of
+     * another number.
+     */
     void cellsOfNoCircuit() {
         nodes(2, 2);
         call("circuit", 8, 0, NONE, NONE);
@@ -360,7 +369,10 @@ public final class CircuitTermsTest extends Bench {
         is(OPEN, "state", 0);
     }
 
-    /** Terms: "DATA of an OPEN stream (also without data): if it is the second, fourth, .. one SENDME is sent (to the last hop)". */
+    /**
+     * Terms: "DATA of an OPEN stream (also without data): if it is the second, fourth, .. one SENDME is
+     * sent (to the last hop)".
+     */
     void secondAndFourthAtAClient() {
         streaming(2, ECHO);
         int[] sendmes = {0, 1, 0, 1, 0, 1};

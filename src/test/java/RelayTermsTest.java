@@ -269,7 +269,10 @@ public final class RelayTermsTest extends Bench {
         is(DESTROY, "look", 1, 0, 0, 4);
     }
 
-    /** Terms: "Else for one that goes on there, and does not wait: the backward cipher is laid over it, and it goes back." */
+    /**
+     * Terms: "Else for one that goes on there, and does not wait: the backward cipher is laid over it, and
+     * it goes back."
+     */
     void relayCellWhileItWaits() {
         building(2);
         is(4, "settle", 4);
@@ -283,6 +286,24 @@ public final class RelayTermsTest extends Bench {
         due("is not recognized: DESTROY to one side", DESTROY, "look", 0, 8, 0, 4);
         due("and to the other", DESTROY, "look", 0, 1, 0, 4);
         is(0, "has", 0, 0);
+    }
+
+    /** Terms: "Else for one that goes on there, and does not wait". While it waits its cipher does not go on. */
+    void cipherWhileItWaits() {
+        building(2);
+        is(1, "circuit", 8, 0, 1, NONE);
+        delivers(8, 0, 2);
+        delivers(0, 8, 2);
+        delivers(8, 0, 2);
+        delivers(0, 1, 2);
+        is(2, "waiting", 1, 0);
+        call("alter", 1, 0, 4, CREATED ^ RELAY);
+        call("alter", 1, 0, 3, 1000 ^ 1001);
+        leftOut(RELAY, 1, 0);
+        is(CREATED, "deliver", 1, 0);
+        is(RELAY, "deliver", 0, 8);
+        is(OPEN, "state", 1);
+        is(BUILDING, "state", 0);
     }
 
     /** Terms: "All else is left out." */
@@ -384,7 +405,10 @@ public final class RelayTermsTest extends Bench {
         is(DESTROY, "look", 0, 2, 1, 4);
     }
 
-    /** Terms: "it goes on there with the next number of this relay (1000, 1001, ..), waits, and CREATE with the 68 bytes goes there." */
+    /**
+     * Terms: "it goes on there with the next number of this relay (1000, 1001, ..), waits, and CREATE with
+     * the 68 bytes goes there."
+     */
     void numbersOfARelay() {
         nodes(3, 1);
         int[][] next = {{0, 1}, {0, 2}, {0, 1}, {1, 0}, {1, 2}};
@@ -403,7 +427,10 @@ public final class RelayTermsTest extends Bench {
         }
     }
 
-    /** Terms: "it goes on there with the next number of this relay (1000, 1001, ..)". One that is refused takes none. */
+    /**
+     * Terms: "it goes on there with the next number of this relay (1000, 1001, ..)". One that is refused
+     * takes none.
+     */
     void refusedExtendTakesNoNumber() {
         extend(68, 1);
         destroyed();
@@ -684,7 +711,10 @@ public final class RelayTermsTest extends Bench {
         }
     }
 
-    /** Terms: "other commands, EXTEND and BEGIN that are not as told (BEGIN of a stream that is there, too), DESTROY the entry." */
+    /**
+     * Terms: "other commands, EXTEND and BEGIN that are not as told (BEGIN of a stream that is there,
+     * too), DESTROY the entry."
+     */
     void otherCommandsAtARelay() {
         for (int command : new int[] {0, CONNECTED, 6, 13, EXTENDED, 16, 128, 255}) {
             streaming(1, ECHO);
@@ -732,6 +762,27 @@ public final class RelayTermsTest extends Bench {
         pushes(0, 2, 1);
         delivers(8, 0, 1);
         due("its window is its own", 7, "waiting", 0, 8);
+    }
+
+    /** Terms: "END: it is there no more." The others keep what they are and how many DATA they had. */
+    void othersStayAsTheyAre() {
+        open(1);
+        call("stream", 0, ECHO);
+        call("stream", 0, KEEP);
+        call("settle", 200);
+        pushes(0, 1, 1);
+        call("settle", 200);
+        is(1, "close", 0, 1);
+        call("settle", 200);
+        is(1, "has", 0, 1);
+        int[] windows = {3, 4, 3, 4};
+        for (int i = 0; i < 4; i++) {
+            pushes(0, 2, 1);
+            call("settle", 200);
+            due("KEEP keeps", i + 1, "has", 0, 2);
+            due("and sends nothing back", 0, "told", 0, 2, 3);
+            due("SENDME for the second and the fourth", windows[i], "told", 0, 2, 1);
+        }
     }
 
     /** Terms: "there is a new entry". One that comes after others have gone has nothing of theirs. */

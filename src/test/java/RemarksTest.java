@@ -15,9 +15,11 @@ public final class RemarksTest {
     private static final Due DUE = new Due();
     private static final String[] FILES = {"BoundaryTest", "CellTermsTest", "RelayTermsTest", "CircuitTermsTest",
         "AnyCallsTest"};
-    private static final Pattern TEST = Pattern.compile("(?m)((?:^    (?:/\\*\\*| \\*).*\n)*)^    void (\\w+)\\(\\) \\{");
+    private static final Pattern TEST
+            = Pattern.compile("(?m)((?:^    (?:/\\*\\*| \\*).*\n)*)^    void (\\w+)\\(\\) \\{");
     private static final Pattern REMARK = Pattern.compile("/\\*\\* (Promise \\d+|Terms|What it is): \"([^\"]*)\".*");
-    private static final Pattern LIMIT = Pattern.compile("at most|less than|above|\\.\\. 65535|of 4|of 69|of 1 |length 64");
+    private static final Pattern LIMIT
+            = Pattern.compile("at most|less than|above|\\.\\. 65535|of 4|of 69|of 1 |length 64");
 
     /** The text under each heading, and of each of its letters whether a test tells it. */
     private final Map<String, String> texts = new LinkedHashMap<>();

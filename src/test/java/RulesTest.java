@@ -13,6 +13,8 @@ import java.util.regex.Pattern;
 /** The face, and the rules of LANGUAGE.md that the class file or the text can show. */
 public final class RulesTest {
     private static final Due DUE = new Due();
+    /** Fields and elements that all calls of a run have in common. */
+    private static final long ROOM = 7_300_000;
     private static final Set<String> FACE = Set.of(
             "int relay(long)", "int client(long)", "int key(int,int)", "boolean weigh(int,int)",
             "int path(long,int)", "int seal(int)", "int circuit(int,int,int,int)", "int stream(int,int)",
@@ -31,6 +33,7 @@ public final class RulesTest {
             classInside(inside);
         }
         text(Files.readString(Path.of("src/main/java/OnionNet.java")));
+        room();
         DUE.end();
     }
 
@@ -117,6 +120,39 @@ public final class RulesTest {
                 }
                 DUE.yes(lines[i].trim() + " is short: " + (end - i + 1), end - i < 60);
             }
+        }
+    }
+
+    /** All that one object can make: every byte that is ever asked for, the lost ones too. */
+    private static void room() {
+        var memory = (com.sun.management.ThreadMXBean) java.lang.management.ManagementFactory.getThreadMXBean();
+        fullRun();
+        long before = memory.getCurrentThreadAllocatedBytes();
+        fullRun();
+        long bytes = memory.getCurrentThreadAllocatedBytes() - before;
+        DUE.yes("a full run takes " + bytes + " bytes, of which an element is four", bytes < 4 * ROOM / 7);
+    }
+
+    private static void fullRun() {
+        OnionNet net = new OnionNet();
+        for (int i = 0; i < 8; i++) {
+            net.relay(i);
+            net.client(i);
+        }
+        for (int i = 0; i < 6; i++) {
+            net.circuit(8 + i % 2, i, (i + 1) % 6, (i + 2) % 6);
+            net.settle(200);
+        }
+        for (int i = 0; i < 24; i++) {
+            net.stream(i % 6, 1);
+            net.settle(200);
+        }
+        for (int i = 0; i < 140; i++) {
+            int circuit = i % 6;
+            int stream = 1 + i / 6 % 4;
+            net.put(circuit, stream, i);
+            net.push(circuit, stream);
+            net.settle(200);
         }
     }
 }

@@ -112,19 +112,24 @@ public final class AnyCallsTest extends Bench {
         }
     }
 
+    private Face.Call anyCall(Random random) {
+        String name = Face.NAMES.get(random.nextInt(Face.NAMES.size()));
+        Class<?>[] types = Face.types(name);
+        long[] args = new long[types.length];
+        for (int at = 0; at < types.length; at++) {
+            args[at] = any(random, types[at]);
+        }
+        return new Face.Call(name, args);
+    }
+
     /** What it is: "An object is used for at most 512 calls after it has been made". Runs of all 512, of any calls. */
     void runsOfAnyCalls() {
         for (int run = 0; run < RUNS; run++) {
             Random random = new Random(run);
             enter(run % STATES);
             for (int i = twin.made.size(); i < Face.CALLS; i++) {
-                String name = Face.NAMES.get(random.nextInt(Face.NAMES.size()));
-                Class<?>[] types = Face.types(name);
-                long[] args = new long[types.length];
-                for (int at = 0; at < types.length; at++) {
-                    args[at] = any(random, types[at]);
-                }
-                call(name, args);
+                Face.Call any = anyCall(random);
+                call(any.name(), any.args());
             }
             DUE.is("calls", twin.made.size(), Face.CALLS);
         }
@@ -147,6 +152,69 @@ public final class AnyCallsTest extends Bench {
             is(want[i], names[i], args[i]);
             DUE.is("calls", twin.made.size(), Face.CALLS);
         }
+    }
+
+    /**
+     * What it is: "what later calls answer is free." Nobody looks at the answers here, but each call ends,
+     * and none throws: more bytes are sent than are kept, and then come calls of any kind.
+     */
+    void laterCalls() {
+        OnionNet net = new OnionNet();
+        net.relay(1);
+        net.client(2);
+        net.circuit(8, 0, NONE, NONE);
+        net.settle(200);
+        net.stream(0, ECHO);
+        net.stream(0, KEEP);
+        for (int i = 0; i < 5 * Face.CALLS; i++) {
+            net.put(0, 1, i);
+            net.put(0, 2, i);
+            net.push(0, 1);
+            net.push(0, 2);
+            net.settle(200);
+        }
+        Random random = new Random(1);
+        for (int i = 0; i < 20 * Face.CALLS; i++) {
+            Face.answer(net, anyCall(random));
+        }
+    }
+
+    /**
+     * What it is: "An onion network in steps: relays and clients that hand cells over links, keys agreed hop
+     * by hop, layers of encryption with running digests, streams with windows to services at the last hop,
+     * under a schedule of deliveries, losses and alterations."
+     */
+    void networkInSteps() {
+        nodes(3, 2);
+        call("circuit", 8, 0, 1, 2);
+        call("circuit", 9, 1, 2, 0);
+        due("twelve cells each", 24, "settle", 200);
+        is(3, "hops", 0);
+        is(3, "hops", 1);
+        is(1, "stream", 0, ECHO);
+        is(1, "stream", 1, KEEP);
+        call("settle", 200);
+        due("at the last hop", 1, "has", 2, 1);
+        due("at the last hop", 1, "has", 0, 1);
+        pushes(0, 1, 4);
+        call("put", 0, 1, 5);
+        due("the window is 0", 0, "push", 0, 1);
+        pushes(1, 1, 2);
+        call("settle", 200);
+        is(4, "told", 0, 1, 3);
+        is(2, "has", 0, 2);
+        is(1, "push", 0, 1);
+        due("one is lost", 1, "drop", 8, 0);
+        pushes(1, 1, 1);
+        due("one is altered", 1, "alter", 9, 1, 100, 1);
+        call("settle", 200);
+        due("who lost one knows nothing of it", OPEN, "state", 0);
+        due("the other one's last relay knows no such digest", GONE, "state", 1);
+        pushes(0, 1, 1);
+        call("settle", 200);
+        due("the ciphers are apart", GONE, "state", 0);
+        is(4, "got", 0, 1, 3);
+        is(2, "kept", 0, 1);
     }
 
     /** The first cell of a link from relay 0 to relay 1 goes by another number than it was sent with. */

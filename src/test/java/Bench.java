@@ -204,6 +204,16 @@ abstract class Bench {
         }
     }
 
+    /** Alters the first cell of a link until these bytes stand in it, from a place on. */
+    final void become(byte[] want, int from, int to, int at) {
+        byte[] now = twin.model.link(from, to).get(0).clone();
+        for (int i = 0; i < want.length; i++) {
+            if (now[at + i] != want[i]) {
+                is(1, "alter", from, to, at + i, (now[at + i] ^ want[i]) & 255);
+            }
+        }
+    }
+
     /** The first cell from client 8 to relay 0 becomes this payload, which the relay recognizes. */
     final void forge(int command, int stream, int length, int... data) {
         byte[] row = new byte[data.length];

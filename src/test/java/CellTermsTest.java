@@ -72,18 +72,11 @@ public final class CellTermsTest extends Bench {
         nodes(1, 1);
         for (int i = 0; i < 4; i++) {
             call("circuit", 8, 0, NONE, NONE);
-            for (int at = 0; at < 4; at++) {
-                int now = call("look", 8, 0, 0, at);
-                int want = at == i ? 255 : 0;
-                if (now != want) {
-                    call("alter", 8, 0, at, now ^ want);
-                }
-            }
+            byte[] number = Crypto.number(255L << 8 * i, 4);
+            become(number, 8, 0, 0);
             is(CREATE, "deliver", 8, 0);
             is(CREATED, "look", 0, 8, i, 4);
-            for (int at = 0; at < 4; at++) {
-                due("its number", at == i ? 255 : 0, "look", 0, 8, i, at);
-            }
+            bytes(number, 0, 8, i, 0);
             due("another entry", i + 1, "has", 0, 0);
         }
         due("left out by the client", 4, "settle", 200);
@@ -271,12 +264,7 @@ public final class CellTermsTest extends Bench {
      */
     void pointsOfLowOrder() {
         building(1);
-        byte[] cell = twin.model.link(8, 0).get(0).clone();
-        for (int i = 41; i < 73; i++) {
-            if (cell[i] != 0) {
-                call("alter", 8, 0, i, cell[i] & 255);
-            }
-        }
+        become(new byte[32], 8, 0, 41);
         call("deliver", 8, 0);
         due("an entry", 1, "has", 0, 0);
         lookAll(0, 8, 0);

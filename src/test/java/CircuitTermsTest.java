@@ -32,7 +32,10 @@ public final class CircuitTermsTest extends Bench {
         }
     }
 
-    /** Terms: "Its number on its link to the first relay is 1, 2, .. as that client made them." */
+    /**
+     * Terms: "Its number on its link to the first relay is 1, 2, .. as that client made them. It begins with
+     * CREATE."
+     */
     void numbersOfCircuits() {
         nodes(2, 2);
         int[] clients = {8, 9, 8, 8, 9, 8};
@@ -43,6 +46,8 @@ public final class CircuitTermsTest extends Bench {
         for (int i = 0; i < 6; i++) {
             is(i, "circuit", clients[i], relays[i], NONE, NONE);
             bytes(Crypto.number(numbers[i], 4), clients[i], relays[i], cells[i], 0);
+            is(CREATE, "look", clients[i], relays[i], cells[i], 4);
+            is(cells[i] + 1, "waiting", clients[i], relays[i]);
         }
     }
 

@@ -54,9 +54,13 @@ final class Face {
         return method(OnionNet.class, name).getParameterTypes();
     }
 
+    static boolean answersBoolean(String name) {
+        return method(OnionNet.class, name).getReturnType() == boolean.class;
+    }
+
     /** What a call of that name answers when it is refused. */
     static int refusal(String name) {
-        return method(OnionNet.class, name).getReturnType() == boolean.class ? 0 : OnionNet.NONE;
+        return answersBoolean(name) ? 0 : OnionNet.NONE;
     }
 
     private static Method method(Class<?> on, String name) {

@@ -1,3 +1,5 @@
+import java.util.Arrays;
+
 /**
  * What "Terms" says of relays, at its boundaries. What honest clients never send comes from cells
  * that are altered until a key recognizes what the sentence is about.
@@ -91,18 +93,15 @@ public final class RelayTermsTest extends Bench {
         if (call("stream", 0, ECHO) == NONE) {
             call("destroy", number - 9);
         }
-        byte[] cell = twin.model.link(8, 0).get(0);
-        byte[] want = Crypto.join(Crypto.number(number, 4), Crypto.one(CREATE), twin.model.relays.get(0).mark,
-                twin.model.relays.get(0).key);
-        for (int i = 0; i < want.length; i++) {
-            if (cell[i] != want[i]) {
-                call("alter", 8, 0, i, (cell[i] ^ want[i]) & 255);
-            }
-        }
+        become(Crypto.join(Crypto.number(number, 4), Crypto.one(CREATE), twin.model.relays.get(0).mark,
+                twin.model.relays.get(0).key), 8, 0, 0);
         is(CREATE, "deliver", 8, 0);
     }
 
-    /** Terms: "A RELAY keeps entries (at most 12)". The thirteenth is refused until one has gone. */
+    /**
+     * Terms: "Of a cell from a node: CREATE: DESTROY goes back (of that number) when there is an entry that
+     * came from this node with this number, or there are 12". Until one of them has gone.
+     */
     void twelveEntries() {
         open(1);
         for (int number = 2; number <= 12; number++) {
@@ -128,6 +127,42 @@ public final class RelayTermsTest extends Bench {
         is(CREATED, "look", 0, 8, 0, 4);
         bytes(Crypto.curve(Crypto.draw(1, 12), Crypto.base()), 0, 8, 0, 5);
         is(12, "has", 0, 0);
+    }
+
+    /**
+     * Terms: "A RELAY keeps entries (at most 12): where a circuit came from (node, number), its keys, perhaps
+     * where it goes on (node, number), whether it waits for CREATED, its streams (at most 4)." Three that
+     * differ in all of it.
+     */
+    void partsOfAnEntry() {
+        nodes(2, 2);
+        call("circuit", 8, 0, NONE, NONE);
+        call("circuit", 9, 0, 1, NONE);
+        call("settle", 200);
+        call("circuit", 8, 0, 1, NONE);
+        due("CREATE, CREATED, EXTEND", 3, "settle", 3);
+        due("three entries", 3, "has", 0, 0);
+        is(1, "stream", 0, ECHO);
+        delivers(8, 0, 1);
+        due("of the first", 1, "has", 0, 1);
+        bytes(Crypto.number(1, 4), 0, 8, 0, 0);
+        delivers(0, 8, 1);
+        is(OPEN, "told", 0, 1, 0);
+        is(1, "stream", 1, ECHO);
+        delivers(9, 0, 1);
+        due("CREATE of the third lies before it", CREATE, "look", 0, 1, 0, 4);
+        bytes(Crypto.number(1001, 4), 0, 1, 0, 0);
+        bytes(Crypto.number(1000, 4), 0, 1, 1, 0);
+        delivers(0, 1, 2);
+        due("the third waits no more", CREATED, "deliver", 1, 0);
+        bytes(Crypto.number(2, 4), 0, 8, 0, 0);
+        due("the second goes back to its client", RELAY, "deliver", 1, 0);
+        bytes(Crypto.number(1, 4), 0, 9, 0, 0);
+        call("settle", 200);
+        is(OPEN, "state", 2);
+        is(OPEN, "told", 1, 1, 0);
+        due("streams are where the circuit ends", 1, "has", 0, 1);
+        is(1, "has", 1, 1);
     }
 
     // ---- DESTROY and CREATED
@@ -341,7 +376,7 @@ public final class RelayTermsTest extends Bench {
         is(0, "waiting", 0, 8);
     }
 
-    /** Terms: "EXTEND with a length of 69, data being a relay's number and 68 bytes". */
+    /** Terms: "DONE are: EXTEND with a length of 69, data being a relay's number and 68 bytes". */
     void lengthOfExtend() {
         extend(69, 1);
         extended(1);
@@ -458,7 +493,10 @@ public final class RelayTermsTest extends Bench {
         is(1, "has", 0, 1);
     }
 
-    /** Terms: "and the data is 1 (ECHO) or 2 (KEEP)". Any other one is refused by END, and the entry stays. */
+    /**
+     * Terms: "and the data is 1 (ECHO) or 2 (KEEP), the stream is there, with a window of 4, and CONNECTED
+     * (without data, of that stream) is sent; otherwise END (and the entry stays)."
+     */
     void services() {
         for (int port : new int[] {0, 1, 2, 3, 254, 255}) {
             boolean there = port == ECHO || port == KEEP;
@@ -468,6 +506,9 @@ public final class RelayTermsTest extends Bench {
             is(there ? 1 : 0, "has", 0, 1);
             is(1, "has", 0, 0);
             lookAll(0, 8, 0);
+            byte[] bare = twin.bare(0, 8, twin.layers(0, 8, 0));
+            Arrays.fill(bare, 5, 9, (byte) 0);
+            DUE.yes("without data", Arrays.equals(bare, Twin.payload(there ? CONNECTED : END, 1, 0)));
             delivers(0, 8, 1);
             is(there ? OPEN : GONE, "told", 0, 1, 0);
             is(OPEN, "state", 0);
@@ -554,7 +595,10 @@ public final class RelayTermsTest extends Bench {
 
     // ---- DATA, END, SENDME
 
-    /** Terms: "DATA (also without data): if it is the second, fourth, .. one SENDME is sent". */
+    /**
+     * Terms: "Of a stream that is there: DATA (also without data): if it is the second, fourth, .. one SENDME
+     * is sent; then KEEP keeps the data".
+     */
     void secondAndFourth() {
         streaming(1, KEEP);
         int[] cells = {0, 1, 1, 2, 2, 3};

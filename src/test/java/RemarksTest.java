@@ -9,17 +9,15 @@ import java.util.regex.Pattern;
 
 /**
  * The first remark of each test of the document's sentences: it tells the heading and the words,
- * the words stand there, and no word of a promise is without a test.
+ * the words stand there, and no word of the document that promises something is without a test.
  */
 public final class RemarksTest {
     private static final Due DUE = new Due();
-    private static final String[] FILES = {"BoundaryTest", "CellTermsTest", "RelayTermsTest", "CircuitTermsTest",
-        "AnyCallsTest"};
+    private static final String[] FILES = {"BoundaryTest", "KeyTermsTest", "CellTermsTest", "RelayTermsTest",
+        "CircuitTermsTest", "AnyCallsTest"};
     private static final Pattern TEST
             = Pattern.compile("(?m)((?:^    (?:/\\*\\*| \\*).*\n)*)^    void (\\w+)\\(\\) \\{");
     private static final Pattern REMARK = Pattern.compile("/\\*\\* (Promise \\d+|Terms|What it is): \"([^\"]*)\".*");
-    private static final Pattern LIMIT
-            = Pattern.compile("at most|less than|above|\\.\\. 65535|of 4|of 69|of 1 |length 64");
 
     /** The text under each heading, and of each of its letters whether a test tells it. */
     private final Map<String, String> texts = new LinkedHashMap<>();
@@ -39,10 +37,11 @@ public final class RemarksTest {
         for (String file : FILES) {
             test.file(file, Files.readString(Path.of("src/test/java/" + file + ".java")));
         }
+        test.allTold("What it is");
+        test.allTold("Terms");
         for (int promise = 1; promise <= 25; promise++) {
             test.allTold("Promise " + promise);
         }
-        test.limitsTold();
         DUE.end();
     }
 
@@ -75,26 +74,17 @@ public final class RemarksTest {
         }
     }
 
-    /** But for its first words, which are the call itself. */
+    /** But for the first words of a promise, which are the call itself. */
     private void allTold(String heading) {
         DUE.begin(heading);
         String text = texts.get(heading);
+        int first = heading.startsWith("Promise") ? text.indexOf("`: ") + 3 : 0;
         StringBuilder rest = new StringBuilder();
-        for (int i = text.indexOf("`: ") + 3; i < text.length(); i++) {
+        for (int i = first; i < text.length(); i++) {
             if (!told.get(heading)[i] && Character.isLetterOrDigit(text.charAt(i))) {
                 rest.append(text.charAt(i));
             }
         }
         DUE.yes("has a test for all of its words, but for: " + rest, rest.length() == 0);
-    }
-
-    private void limitsTold() {
-        DUE.begin("Terms");
-        String text = texts.get("Terms");
-        Matcher limit = LIMIT.matcher(text);
-        while (limit.find()) {
-            String around = text.substring(Math.max(0, limit.start() - 40), Math.min(text.length(), limit.end() + 20));
-            DUE.yes("a test tells this limit: " + around, told.get("Terms")[limit.start()]);
-        }
     }
 }

@@ -15,20 +15,14 @@ public final class RulesTest {
     private static final Due DUE = new Due();
     /** Fields and elements that all calls of a run have in common. */
     private static final long ROOM = 7_300_000;
-    private static final Set<String> FACE = Set.of(
-            "int relay(long)", "int client(long)", "int key(int,int)", "boolean weigh(int,int)",
-            "int path(long,int)", "int seal(int)", "int circuit(int,int,int,int)", "int stream(int,int)",
-            "boolean put(int,int,int)", "int push(int,int)", "boolean close(int,int)", "boolean destroy(int)",
-            "int deliver(int,int)", "boolean drop(int,int)", "boolean alter(int,int,int,int)",
-            "int waiting(int,int)", "int look(int,int,int,int)", "int settle(int)", "int state(int)",
-            "int hops(int)", "int told(int,int,int)", "int got(int,int,int)", "int kept(int,int)",
-            "int has(int,int)");
+    /** A method as the document prints it, with the names of what it takes. */
+    private static final Pattern PRINTED = Pattern.compile("public (int|boolean) (\\w+\\(.*\\));");
 
     private RulesTest() {
     }
 
     public static void main(String[] args) throws IOException {
-        face();
+        face(Files.readString(Path.of("../shared/DOC.md")));
         for (Class<?> inside : OnionNet.class.getDeclaredClasses()) {
             classInside(inside);
         }
@@ -42,7 +36,16 @@ public final class RulesTest {
         return method.getReturnType().getName() + " " + method.getName() + "(" + String.join(",", types) + ")";
     }
 
-    private static void face() {
+    private static Set<String> printed(String document) {
+        Set<String> printed = new TreeSet<>();
+        Matcher method = PRINTED.matcher(document);
+        while (method.find()) {
+            printed.add(method.group(1) + " " + method.group(2).replaceAll(" \\w+(?=[,)])", "").replace(" ", ""));
+        }
+        return printed;
+    }
+
+    private static void face(String document) {
         int flags = OnionNet.class.getModifiers();
         DUE.yes("public and final", Modifier.isPublic(flags) && Modifier.isFinal(flags));
         DUE.is("constructors", OnionNet.class.getDeclaredConstructors().length, 1);
@@ -56,7 +59,10 @@ public final class RulesTest {
                 ownName(method);
             }
         }
-        DUE.yes("the document's methods: " + seen, seen.equals(FACE));
+        Set<String> printed = printed(document);
+        DUE.is("the document's methods", printed.size(), 24);
+        DUE.yes("its methods are those: " + seen + ", " + printed, seen.equals(printed));
+        DUE.is("NONE", OnionNet.NONE, -1);
         for (Field field : OnionNet.class.getDeclaredFields()) {
             DUE.yes(field + " is private or NONE",
                     Modifier.isPrivate(field.getModifiers()) || field.getName().equals("NONE"));
@@ -81,8 +87,7 @@ public final class RulesTest {
     }
 
     private static void ownName(Method method) {
-        DUE.yes(method + " bears a name of its own",
-                FACE.stream().noneMatch(one -> one.contains(" " + method.getName() + "(")));
+        DUE.no(method + " bears the name of a public one", Face.NAMES.contains(method.getName()));
     }
 
     private static void fixed(Field field) {

@@ -1,3 +1,5 @@
+import java.util.Arrays;
+
 /** What "Terms" says of nodes, links, cells and handshakes, at its boundaries. */
 public final class CellTermsTest extends Bench {
     public static void main(String[] args) throws ReflectiveOperationException {
@@ -65,6 +67,28 @@ public final class CellTermsTest extends Bench {
         bytes(new byte[71], 0, 8, 0, 69);
         call("destroy", 0);
         bytes(new byte[135], 8, 0, 0, 5);
+    }
+
+    /**
+     * Terms: "0 where nothing is told". Behind data, too, when as many bytes have been sent before as can
+     * wait: none of them shows again.
+     */
+    void zerosBehindData() {
+        streaming(1, KEEP);
+        for (int i = 0; i < 400; i++) {
+            is(1, "put", 0, 1, 255);
+        }
+        int[] counts = {124, 124, 124, 28};
+        for (int count : counts) {
+            is(count, "push", 0, 1);
+        }
+        call("settle", 200);
+        is(1, "put", 0, 1, 255);
+        is(1, "push", 0, 1);
+        byte[] bare = twin.bare(8, 0, twin.layers(8, 0, 0));
+        DUE.is("the data", bare[11] & 255, 255);
+        DUE.is("behind it", bare[12], 0);
+        bytes(Arrays.copyOfRange(twin.model.link(8, 0).get(0), 15, 60), 8, 0, 0, 15);
     }
 
     /** Terms: "BYTES are 0 .. 255; numbers in bytes have the highest one first". */
